@@ -9,6 +9,7 @@ public final class WaysTest {
         farthest();
         apart();
         apartOfEqualOnes();
+        largestTrees();
         Due.end();
     }
 
@@ -35,6 +36,14 @@ public final class WaysTest {
         Due.is("no other", looks.meeting(0, -1), AncestorLooks.UNKNOWN);
         looks.prune(5);
         Due.is("gone", looks.meeting(5, 5), AncestorLooks.UNKNOWN);
+        Due.is("gone", looks.meeting(5, 0), AncestorLooks.UNKNOWN);
+        Due.is("the other is gone", looks.meeting(0, 5), AncestorLooks.UNKNOWN);
+        Due.is("no way from one that is gone", looks.wayAt(5, 0, 0), AncestorLooks.UNKNOWN);
+        Due.is("no way to one that is gone", looks.wayAt(0, 5, 0), AncestorLooks.UNKNOWN);
+        Due.real("no distance of one that is gone", looks.distance(5, 0), Float.NaN);
+        Due.real("no distance to one that is gone", looks.distance(0, 5), Float.NaN);
+        Due.is("no reach of one that is gone", looks.reach(5, 0), AncestorLooks.UNKNOWN);
+        Due.is("none is far from one that is gone", looks.farthest(5), AncestorLooks.UNKNOWN);
     }
 
     private static void wayAt() {
@@ -155,5 +164,27 @@ public final class WaysTest {
         AncestorLooks down = withLengths("(())", 1.0f, 0.0f);
         Due.is("the root is one", down.apart(0), 0);
         Due.is("and the lower number the other", down.apart(1), 1);
+    }
+
+    private static void largestTrees() {
+        AncestorLooks down = Due.chain(89);
+        Due.is("meeting at the root", down.meeting(89, 0), 0);
+        Due.is("the end of the longest way", down.wayAt(89, 0, 89), 0);
+        Due.is("the end of the longest way down", down.wayAt(0, 89, 89), 89);
+        Due.is("no further", down.wayAt(0, 89, 90), AncestorLooks.NONE);
+        Due.is("the reach of the deepest node", down.reach(89, Due.bits(89.0f)), 0);
+        Due.is("and less", down.reach(89, Due.bits(88.0f)), 1);
+        Due.is("farthest", down.farthest(89), 0);
+        Due.is("the first one apart", down.apart(0), 0);
+        Due.is("the second one apart", down.apart(1), 89);
+        AncestorLooks star = new AncestorLooks();
+        for (int node = 1; node <= 89; node++) {
+            star.addLeaf(0, Due.bits(node * 1.0f));
+        }
+        Due.is("children of the root", star.node(0, 3), 89);
+        Due.is("the first one apart", star.apart(0), 88);
+        Due.is("the second one apart", star.apart(1), 89);
+        Due.is("farthest of the farthest", star.farthest(89), 88);
+        Due.real("their distance", star.distance(88, 89), 177.0f);
     }
 }
