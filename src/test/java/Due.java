@@ -2,15 +2,25 @@
 final class Due {
     private static int asked = 0;
     private static int wrong = 0;
+    /** Stands before each line that tells of a wrong answer. */
+    private static String where = "";
 
     private Due() {
+    }
+
+    static void under(String heading) {
+        where = heading;
+    }
+
+    static int asked() {
+        return asked;
     }
 
     static void is(String call, long got, long want) {
         asked++;
         if (got != want) {
             wrong++;
-            System.out.println(call + " answered " + got + ", due is " + want);
+            System.out.println(where + call + " answered " + got + ", due is " + want);
         }
     }
 
@@ -19,7 +29,7 @@ final class Due {
         asked++;
         if (Float.floatToIntBits(got) != Float.floatToIntBits(want)) {
             wrong++;
-            System.out.println(call + " answered " + got + ", due is " + want);
+            System.out.println(where + call + " answered " + got + ", due is " + want);
         }
     }
 
@@ -27,7 +37,7 @@ final class Due {
         asked++;
         if (!so) {
             wrong++;
-            System.out.println("does not hold: " + what);
+            System.out.println(where + "does not hold: " + what);
         }
     }
 

@@ -27,6 +27,29 @@ public final class LanguageTest {
         Due.holds("each member of the public class is private or of the face", !loose.find());
         Matcher fixed = Pattern.compile("\\bstatic (?!final|int|float|boolean|void)").matcher(code);
         Due.holds("static fields are final", !fixed.find());
+        measures(code);
         Due.end();
+    }
+
+    /** A method ends with the first brace that is as far in as its own line; so does a class. */
+    private static void measures(String code) {
+        Matcher methods = Pattern.compile("(?ms)^( +)(?:(?:public|private|static) )*\\w+ \\w+\\(([^)]*)\\) \\{$.*?^\\1}").matcher(code);
+        int seen = 0;
+        while (methods.find()) {
+            String head = methods.group().lines().findFirst().orElse("").trim();
+            Due.holds("sixty lines at most: " + head, methods.group().lines().count() <= 60);
+            Due.holds("seven parameters at most: " + head, methods.group(2).split(",").length <= 7);
+            seen++;
+        }
+        Due.holds("methods are seen", seen > 100);
+        Matcher classes = Pattern.compile("(?ms)^( *)(?:\\w+ )+class (\\w+) \\{$.*?^\\1}").matcher(code);
+        int classesSeen = 0;
+        for (int from = 0; classes.find(from); from = classes.start() + 1) {
+            classesSeen++;
+            String fields = "(?m)^" + classes.group(1) + "    private (?:final )?[\\w\\[\\]]+ \\w+;";
+            long count = Pattern.compile(fields).matcher(classes.group()).results().count();
+            Due.holds("twenty fields at most: " + classes.group(2), count <= 20);
+        }
+        Due.holds("the classes inside are seen", classesSeen > 1);
     }
 }

@@ -5,6 +5,8 @@
 public final class ModelTest {
     private static final int RUNS = 160;
     private static final int CALLS = 512;
+    /** The longest text of TEXTS, clearText() and grow(), and two questions of two calls. */
+    private static final int MOST_IN_A_ROUND = 36;
     private static final float[] LENGTHS = {0.0f, 1.0f, 1.0f, 2.0f, 0.1f, 0.3f, 1000.0f, 999.99994f, 1.0e-7f,
         Float.MIN_VALUE, Float.MIN_NORMAL, 3.3333f, 123.456f, 2.5f, -0.0f, -1.0f, 1000.0001f, Float.NaN};
     private static final String[] TEXTS = {"()", "(())", "()()", "(()())", "((()))(())", "(((((((((())))))))))",
@@ -23,11 +25,8 @@ public final class ModelTest {
     public static void main(String[] args) {
         for (int run = 0; run < RUNS; run++) {
             ModelTest test = new ModelTest(run);
-            for (int call = 0; call < CALLS;) {
-                call += test.act();
-                test.ask(call);
-                test.ask(call + 1);
-                call += 2;
+            for (int calls = 0; calls + MOST_IN_A_ROUND <= CALLS;) {
+                calls += test.act() + test.ask() + test.ask();
             }
         }
         Due.end();
@@ -149,7 +148,8 @@ public final class ModelTest {
         }
     }
 
-    private void ask(int call) {
+    /** Answers how many calls it made. */
+    private int ask() {
         int kind = below(16);
         int node = someNode();
         int other = someNode();
@@ -158,6 +158,7 @@ public final class ModelTest {
         } else {
             askAround(kind, node, other);
         }
+        return kind == 14 ? 2 : 1;
     }
 
     private void askUpward(int kind, int node, int other) {
