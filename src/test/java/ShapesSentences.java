@@ -51,6 +51,12 @@ final class ShapesSentences implements Answers {
             looks.prune(10);
             Due.is("one fewer when a leaf is gone", looks.alike(3), 2);
             Due.is("but one leaf more", looks.alike(9), 5);
+            AncestorLooks chain = Due.chain(3);
+            chain.prune(3);
+            Due.is("not one that is gone", chain.alike(2), 1);
+            chain.undo();
+            chain.undo();
+            Due.is("not one that was undone", chain.alike(2), 1);
         }).says("UNKNOWN", () -> {
             AncestorLooks looks = Trees.oneGone();
             Trees.noNodes("alike", looks::alike);
@@ -90,6 +96,7 @@ final class ShapesSentences implements Answers {
         }).says("`place`: a place in the table, from 0", () -> {
             AncestorLooks looks = new AncestorLooks();
             Due.is("the first one", looks.tableAt(0), 2);
+            Due.is("and once more", looks.tableAt(0), 2);
             AncestorLooks most = Due.chain(14);
             Due.is("the last one", most.tableAt(14), (1 << 30) - (1 << 15));
         }).says("the shape", () -> {
@@ -136,11 +143,13 @@ final class ShapesSentences implements Answers {
             Due.is("one", Due.chain(89).count(3), 1);
             Due.is("many", Due.grown("((()())())()").count(3), 4);
             Due.is("the most", Trees.full().count(3), 87);
+            Due.is("none of those that are gone", Trees.oneGone().count(3), 1);
         }).says("4 for the nodes of all ladders together (a node counted for each ladder on which it is)", () -> {
             Due.is("the root alone", new AncestorLooks().count(4), 1);
             Due.is("none above the root", Due.chain(89).count(4), 90);
             Due.is("the root on each one", Due.grown("()".repeat(30)).count(4), 60);
             Due.is("ladders of 4, 4 and 2", Due.grown("((()))((()))()").count(4), 10);
+            Due.is("none of those that are gone", Trees.oneGone().count(4), 3);
         }).says("5 for the jumps of all leaves together", () -> {
             Due.is("the root alone", new AncestorLooks().count(5), 0);
             Due.is("of one at the depth 89", Due.chain(89).count(5), 7);
@@ -148,6 +157,7 @@ final class ShapesSentences implements Answers {
             Due.is("of one at the depth 63", Due.chain(63).count(5), 6);
             Due.is("by one step only", Due.grown("()".repeat(30)).count(5), 30);
             Due.is("2, 2 and 1", Due.grown("((()))((()))()").count(5), 5);
+            Due.is("none of those that are gone", Trees.oneGone().count(5), 2);
         }).says("6 for the greatest depth", () -> {
             Due.is("the root alone", new AncestorLooks().count(6), 0);
             Due.is("the most", Due.chain(89).count(6), 89);
@@ -155,6 +165,7 @@ final class ShapesSentences implements Answers {
             Due.is("of several", looks.count(6), 2);
             looks.graft(1, 5);
             Due.is("after a graft", looks.count(6), 4);
+            Due.is("not of one that is gone", Trees.oneGone().count(6), 2);
         });
     }
 
@@ -163,6 +174,7 @@ final class ShapesSentences implements Answers {
             Due.is("the root alone", new AncestorLooks().count(7), 1);
             Due.is("each one once", Due.grown("()()(())").count(7), 3);
             Due.is("none of more than 15 nodes", Due.chain(89).count(7), 15);
+            Due.is("none of those that are gone", Trees.oneGone().count(7), 3);
         }).says("8 for the states in the history", () -> {
             AncestorLooks looks = new AncestorLooks();
             Due.is("none at first", looks.count(8), 0);

@@ -14,7 +14,7 @@ final class Trees implements Answers {
         looks.addLeaf(1, ONE);
         looks.prune(2);
         Due.typeAll(looks, "(".repeat(20) + ")".repeat(20));
-        Due.is("grow(3), to be undone", looks.grow(3), 20);
+        Due.is("grow(0), to be undone", looks.grow(0), 20);
         looks.undo();
         looks.clearText();
         return looks;

@@ -235,6 +235,9 @@ final class WaysSentences implements Answers {
             looks.prune(4);
             Due.is("not one that is gone, but its brother", looks.farthest(3), 2);
             Due.is("the root when it is farthest", Due.chain(5).farthest(5), 0);
+            float step = Float.MIN_VALUE;
+            AncestorLooks least = Trees.withLengths("()()()", step, 3.0f * step, 2.0f * step);
+            Due.is("by the least difference", least.farthest(0), 2);
         }).says("of several the one with the lowest number", () -> {
             AncestorLooks star = Due.grown("()()()()");
             Due.is("of four", star.farthest(0), 1);
