@@ -75,12 +75,16 @@ public final class ReadmeTest {
     }
 
     private static void run(String code) throws IOException, ReflectiveOperationException {
+        JavaCompiler compiler = ToolProvider.getSystemJavaCompiler();
+        Due.holds("there is a compiler for the Java lines of README.md", compiler != null);
+        if (compiler == null) {
+            return;
+        }
         Path folder = Files.createTempDirectory("readme");
         Path source = folder.resolve(EXAMPLE + ".java");
         Path compiled = folder.resolve(EXAMPLE + ".class");
         try {
             Files.writeString(source, code, StandardCharsets.UTF_8);
-            JavaCompiler compiler = ToolProvider.getSystemJavaCompiler();
             int ended = compiler.run(null, null, null, "-cp", System.getProperty("java.class.path"), "-d",
                     folder.toString(), source.toString());
             Due.is("compiling the Java lines of README.md", ended, 0);
