@@ -159,13 +159,10 @@ public final class EveryQuestionTest implements Answers {
     private void askPair(int node, int other) {
         is("meeting " + node + " " + other, looks().meeting(node, other), model.meeting(node, other));
         Due.real(name + ": distance " + node + " " + other, looks().distance(node, other), model.distance(node, other));
-        boolean whole = (node + other) % 8 == 0;
-        for (int place = -1; whole && place <= 90; place++) {
-            int due = model.wayAt(node, other, place);
+        int due = 0;
+        for (int place = -1; place <= 0 || due >= 0; place++) {
+            due = model.wayAt(node, other, place);
             is("wayAt " + node + " " + other + " " + place, looks().wayAt(node, other, place), due);
-            if (place >= 0 && due < 0) {
-                break;
-            }
         }
     }
 }
